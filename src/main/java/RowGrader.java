@@ -460,7 +460,7 @@ public final class RowGrader {
         long value;
 
         void append(long w, int n) {
-            for (int i = n - 1; i >= 0 && count < MOST_BYTES; i--) {
+            for (int i = n - 1; i >= 0 && count >= 0 && count < MOST_BYTES; i--) {
                 bytes[count] = (int) (w >>> (8 * i) & 255);
                 count++;
             }
@@ -561,11 +561,10 @@ public final class RowGrader {
             ofCount = 0;
         }
 
-        boolean addOf(int number) {
-            if (ofCount >= MOST_OF) return false;
+        void addOf(int number) {
+            if (ofCount < 0 || ofCount >= MOST_OF) return;
             of[ofCount] = number;
             ofCount++;
-            return true;
         }
 
         void ungrade() {
@@ -617,7 +616,7 @@ public final class RowGrader {
             return rowAt(number);
         }
 
-        /** NO for what is no fact of the points that there are; a fourth point may be anything where the kind has three. */
+        /** NO for what is no fact of the points that there are; where the kind has three, d may be anything. */
         int factOf(int kind, int a, int b, int c, int d) {
             if (kind < 0 || kind >= KINDS) return NO;
             int fourth = Facts.pointsOf(kind) == 4 ? d : 0;
@@ -626,8 +625,10 @@ public final class RowGrader {
         }
 
         boolean add(Row draft) {
-            if (rowCount >= MOST_ROWS) return false;
-            rows[rowCount].take(draft);
+            if (rowCount < 0 || rowCount >= MOST_ROWS) return false;
+            Row next = rows[rowCount];
+            if (next == null) return false;
+            next.take(draft);
             rowCount++;
             return true;
         }
@@ -693,7 +694,7 @@ public final class RowGrader {
             if (kind < 0 || kind >= KINDS) return wordStart;
             int size = Facts.pointsOf(kind);
             letters[3] = 0;
-            for (int i = 0; i < size; i++) {
+            for (int i = 0; i < size && i < letters.length; i++) {
                 tape.next();
                 if (tape.sort != Tape.POINT || tape.value >= sheet.pointCount) return tape.start;
                 letters[i] = (int) tape.value;
@@ -773,6 +774,7 @@ public final class RowGrader {
             return fact < 0 || fact >= Facts.SIZE ? FAR : levels[fact];
         }
 
+        /** A fact of level 0 is one that follows from what lies a level below all. */
         void assume(int fact) {
             now = -1;
             offer(fact, -1);
@@ -803,9 +805,11 @@ public final class RowGrader {
             int level = 1 + (now < other ? other : now);
             if (fact < 0 || fact >= Facts.SIZE || level >= levels[fact]) return;
             levels[fact] = level;
-            if (level < 0 || level >= DEEPEST || waits[level] >= Facts.REAL) return;
-            waiting[level][waits[level]] = fact;
-            waits[level]++;
+            if (level < 0 || level >= DEEPEST) return;
+            int behind = waits[level];
+            if (behind < 0 || behind >= Facts.REAL) return;
+            waiting[level][behind] = fact;
+            waits[level] = behind + 1;
         }
 
         private void use(int fact) {
@@ -986,7 +990,7 @@ public final class RowGrader {
             }
         }
 
-        /** Rule 13: of the circle in use d and one more go, of the other one stays. */
+        /** Rule 13 with the circle in use: another one has all of its points but d, and e; one point of both may go. */
         private void useCircle(int mask) {
             for (int e = 0; e < points; e++) {
                 if ((mask >> e & 1) == 1) continue;
@@ -1044,6 +1048,8 @@ public final class RowGrader {
         private final int[] letters = new int[MOST_LETTERS];
         private final int[] listed = new int[MOST_OF];
         private int listedCount;
+        // For each letter the points that it may stand for: only those of the fact, where it is in what follows.
+        private final int[] allowed = new int[MOST_LETTERS];
         private int points;
         private int target;
         // Premises are of lesser levels than this; 0: they are listed ones.
@@ -1072,7 +1078,7 @@ public final class RowGrader {
             return findLetters(rule);
         }
 
-        /** Of the least rule and letters by which the fact follows, the first premise of the greatest level; NO: it does not follow. */
+        /** By the least rule and letters that give the fact: the first premise of the greatest level, or NO. */
         int premiseOf(int fact) {
             target = fact;
             below = levels.at(fact);
@@ -1093,9 +1099,7 @@ public final class RowGrader {
 
         /** Steps through the letters like the wheels of a counter, past all stands with a part that fails. */
         private boolean findLetters(int rule) {
-            if (rule < 0 || rule + 1 >= FIRST_PART.length) return false;
-            firstPart = FIRST_PART[rule];
-            conclusion = FIRST_PART[rule + 1] - 1;
+            if (!isRuleFor(rule)) return false;
             int last = partAt(conclusion, WHOLE_WITH);
             int place = 0;
             letters[0] = -1;
@@ -1103,13 +1107,30 @@ public final class RowGrader {
                 letters[place]++;
                 if (letters[place] >= points) {
                     place--;
-                } else if (partsStand(place)) {
+                } else if ((allowed[place] >> letters[place] & 1) == 1 && partsStand(place)) {
                     if (place == last) return true;
                     place++;
                     if (place < MOST_LETTERS) letters[place] = -1;
                 }
             }
             return false;
+        }
+
+        /** Makes a rule the one at hand; whether it is there and facts of the target's kind follow by it. */
+        private boolean isRuleFor(int rule) {
+            if (rule < 0 || rule + 1 >= FIRST_PART.length) return false;
+            firstPart = FIRST_PART[rule];
+            conclusion = FIRST_PART[rule + 1] - 1;
+            int kind = Facts.kindOf(target);
+            if (partAt(conclusion, 0) != kind) return false;
+            int targetMask = 0;
+            for (int i = 0; i < Facts.pointsOf(kind); i++) targetMask |= 1 << Facts.pointOf(target, i);
+            for (int i = 0; i < MOST_LETTERS; i++) allowed[i] = -1;
+            for (int i = 1; i <= Facts.pointsOf(kind); i++) {
+                int letter = partAt(conclusion, i);
+                if (letter >= 0 && letter < MOST_LETTERS) allowed[letter] = targetMask;
+            }
+            return true;
         }
 
         /** Whether all parts that are whole with the letter at this place are as they must be. */
@@ -1132,7 +1153,8 @@ public final class RowGrader {
         }
 
         private int factAt(int part) {
-            return Facts.number(partAt(part, 0), pointAt(part, 1), pointAt(part, 2), pointAt(part, 3), pointAt(part, 4));
+            int kind = partAt(part, 0);
+            return Facts.number(kind, pointAt(part, 1), pointAt(part, 2), pointAt(part, 3), pointAt(part, 4));
         }
 
         private int pointAt(int part, int i) {
@@ -1173,7 +1195,10 @@ public final class RowGrader {
                 if (next == null) break;
                 next.turn = turn;
                 next.way = quickWay(next);
-                if (next.way == WAY_NONE && followsByRule(next)) next.way = WAY_BY;
+                if (next.way == WAY_NONE && next.reason == BY) {
+                    listRightOf(next);
+                    if (search.followsFromListed(next.fact, next.rule)) next.way = WAY_BY;
+                }
                 if (next.way == WAY_NONE) {
                     levels.spread(LONGEST_GAP);
                     if (levels.at(next.fact) <= LONGEST_GAP) next.way = WAY_FOUND;
@@ -1243,14 +1268,12 @@ public final class RowGrader {
             return claimsSeen && firstAgainst(told.fact) == NONE ? WAY_SEEN : WAY_NONE;
         }
 
-        private boolean followsByRule(Row told) {
-            if (told.reason != BY) return false;
+        private void listRightOf(Row told) {
             search.restart(sheet.pointCount);
             for (int i = 0; i < told.ofCount; i++) {
                 Row of = sheet.rowAt(told.ofAt(i));
                 if (of != null && of.verdict == RIGHT) search.list(of.fact);
             }
-            return search.followsFromListed(told.fact, told.rule);
         }
 
         private void settle(Row told) {
