@@ -266,6 +266,12 @@ public final class PromisesTest {
         due("CIRC with one place twice", x.holds(0, CIRC, 0, 1, 2, 4), 0);
         due("PAR of no length", x.holds(0, PAR, 0, 4, 1, 2), 1);
         due("BTW at an end", x.holds(0, BTW, 4, 0, 1, 0), 0);
+        draw(0, 0, 0, 1, 0, 1, 1, 0, 1, 2, 0);
+        due("CIRC of the least square", x.holds(0, CIRC, 0, 1, 2, 3), 1);
+        due("CIRC of another four", x.holds(0, CIRC, 4, 1, 2, 3), 0);
+        due("COL of the least", x.holds(0, COL, 0, 1, 4, 0), 1);
+        draw(0, 0, 1, 0, 0, 1, 0, 1, 1);
+        due("CIRC of the least square, turned", x.holds(0, CIRC, 0, 1, 2, 3), 1);
         draw(0, 5, 0, 3, 4, -4, 3, 0, -5, -3, -4);
         due("CIRC of many", x.holds(0, CIRC, 0, 1, 2, 3), 1);
         due("CIRC of many", x.holds(0, CIRC, 4, 1, 0, 3), 1);
