@@ -469,7 +469,6 @@ public final class RowGrader {
         int empty() {
             int former = count;
             count = 0;
-            at = 0;
             return former;
         }
 
@@ -488,9 +487,9 @@ public final class RowGrader {
             else if (size == 1 && allIn('A', 'G')) sort = POINT;
             else if (size <= 3 && allIn('0', '9')) sort = NUMBER;
             else sort = BAD;
-            if (sort == WORD) readDigits(0, 256);
-            if (sort == POINT) readDigits('A', 1);
-            if (sort == NUMBER) readDigits('0', 10);
+            if (sort == WORD) readValue(0, 256);
+            if (sort == POINT) readValue('A', 1);
+            if (sort == NUMBER) readValue('0', 10);
         }
 
         private boolean allIn(int first, int last) {
@@ -500,7 +499,8 @@ public final class RowGrader {
             return true;
         }
 
-        private void readDigits(int zero, int base) {
+        /** A word, too, is a number, of base 256: words are the same if these are. */
+        private void readValue(int zero, int base) {
             for (int i = start; i < at && i < MOST_BYTES; i++) value = value * base + (bytes[i] - zero);
         }
     }

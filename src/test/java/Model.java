@@ -110,6 +110,7 @@ final class Model {
         final List<List<Integer>> facts = new ArrayList<>();
         final Map<List<Integer>, Integer> numbers = new HashMap<>();
         final List<Instance> instances = new ArrayList<>();
+        final Map<Integer, List<Instance>> byConclusion = new HashMap<>();
 
         Universe(int n) {
             for (int rule = 0; rule < RULES.size(); rule++) fill(rule, new int[RULES.get(rule).letters()], 0, n);
@@ -147,7 +148,9 @@ final class Model {
                 if (fact == null) return;
                 found[i] = numberOf(fact);
             }
-            instances.add(new Instance(rule, Arrays.copyOf(found, found.length - 1), found[found.length - 1]));
+            Instance one = new Instance(rule, Arrays.copyOf(found, found.length - 1), found[found.length - 1]);
+            instances.add(one);
+            byConclusion.computeIfAbsent(one.conclusion(), i -> new ArrayList<>()).add(one);
         }
 
         /** Levels up to the depth, 99 for all others. */
@@ -541,8 +544,8 @@ final class Model {
             MRow of = rowAt(i);
             if (of != null && of.verdict == 1) known.add(universe(points).numberOf(of.fact));
         }
-        for (Instance one : universe(points).instances) {
-            if (one.rule() == row.rule && one.conclusion() == number && Arrays.stream(one.premises()).allMatch(known::contains)) return true;
+        for (Instance one : universe(points).byConclusion.getOrDefault(number, List.of())) {
+            if (one.rule() == row.rule && Arrays.stream(one.premises()).allMatch(known::contains)) return true;
         }
         return false;
     }
@@ -606,8 +609,7 @@ final class Model {
     }
 
     int stepDown(int fact) {
-        for (Instance one : universe(points).instances) {
-            if (one.conclusion() != fact) continue;
+        for (Instance one : universe(points).byConclusion.getOrDefault(fact, List.of())) {
             int greatest = Arrays.stream(one.premises()).map(i -> levelsNow[i]).max().orElse(99);
             if (greatest >= levelsNow[fact]) continue;
             for (int premise : one.premises()) {

@@ -35,6 +35,8 @@ public final class PromisesTest {
         test.gradingIsSpent();
         test.verdict();
         test.way();
+        test.wayBySixRows();
+        test.rightNoMore();
         test.waysOfRules();
         test.lettersMayBeTheSame();
         test.gap();
@@ -221,6 +223,10 @@ public final class PromisesTest {
         due("BTW beside", x.holds(0, BTW, 3, 0, 1, 0), 0);
         due("a point without a place", x.holds(0, COL, 0, 1, 4, 0), 0);
         due("EQ without a place", x.holds(0, EQ, 0, 1, 0, 4), 0);
+        holdsWithout(0);
+        holdsWithout(1);
+        holdsWithout(2);
+        holdsWithout(3);
         for (int bad : new int[] {LEAST, -1, 5, 7, MOST}) {
             due("figure " + bad, x.holds(bad, COL, 0, 1, 2, 0), UNKNOWN);
             due("unknown first", x.holds(bad, bad, 0, 0, 0, 0), UNKNOWN);
@@ -244,6 +250,37 @@ public final class PromisesTest {
         due("CIRC d is a", x.holds(0, CIRC, 0, 1, 2, 0), OUTSIDE);
         due("CIRC d is b", x.holds(0, CIRC, 0, 1, 2, 1), OUTSIDE);
         due("CIRC d is c", x.holds(0, CIRC, 0, 1, 2, 2), OUTSIDE);
+    }
+
+    /** One point has no place: nothing that names it holds, though it would with the place 0, 0. */
+    private void holdsWithout(int lost) {
+        RowGrader y = new RowGrader();
+        y.points(4);
+        y.figure();
+        int[] places = {0, 0, -1, 0, 1, 0, 2, 0};
+        int[] square = {0, 0, 0, 1, 1, 1, 1, 0};
+        for (int p = 0; p < 4; p++) {
+            int q = (p + 4 - lost) % 4;
+            if (p != lost) y.place(0, p, places[2 * q], places[2 * q + 1]);
+        }
+        int b = (lost + 1) % 4;
+        int c = (lost + 2) % 4;
+        int d = (lost + 3) % 4;
+        due("COL without " + lost, y.holds(0, COL, lost, b, c, 0), 0);
+        due("PAR without " + lost, y.holds(0, PAR, lost, b, c, d), 0);
+        due("EQ without " + lost, y.holds(0, EQ, lost, b, c, d), 0);
+        due("MID without " + lost, y.holds(0, MID, lost, b, c, 0), 0);
+        due("BTW without " + lost, y.holds(0, BTW, lost, b, c, 0), 0);
+        due("COL with all the others", y.holds(0, COL, b, c, d, 0), 1);
+        for (int p = 0; p < 4; p++) {
+            int q = (p + 4 - lost) % 4;
+            if (p != lost) y.place(0, p, square[2 * q], square[2 * q + 1]);
+        }
+        due("CIRC without " + lost, y.holds(0, CIRC, lost, b, c, d), 0);
+        due("PERP without " + lost, y.holds(0, PERP, lost, b, c, b), 0);
+        y.place(0, lost, 0, 0);
+        due("CIRC with it", y.holds(0, CIRC, lost, b, c, d), 1);
+        due("PERP with it", y.holds(0, PERP, lost, b, c, b), 1);
     }
 
     private void holdsExactly() {
@@ -272,6 +309,10 @@ public final class PromisesTest {
         due("COL of the least", x.holds(0, COL, 0, 1, 4, 0), 1);
         draw(0, 0, 1, 0, 0, 1, 0, 1, 1);
         due("CIRC of the least square, turned", x.holds(0, CIRC, 0, 1, 2, 3), 1);
+        draw(0, 0, 0, 0, 1, 1, 1, 1, 0);
+        due("CIRC of the least square, the other way round", x.holds(0, CIRC, 0, 1, 2, 3), 1);
+        draw(0, 0, 0, 1, 1, 1, 0, 0, 1);
+        due("CIRC of the least square, crossed", x.holds(0, CIRC, 0, 1, 2, 3), 1);
         draw(0, 5, 0, 3, 4, -4, 3, 0, -5, -3, -4);
         due("CIRC of many", x.holds(0, CIRC, 0, 1, 2, 3), 1);
         due("CIRC of many", x.holds(0, CIRC, 4, 1, 0, 3), 1);
@@ -674,6 +715,57 @@ public final class PromisesTest {
         due("again", x.way(4), 2);
     }
 
+    /** All six rows OF count, and no former row's. */
+    private void wayBySixRows() {
+        begin(20, 4);
+        rows("line A B D given", "perp A B C D given", "perp A C B D given", "eq A B C D given", "eq A C B D given", "btw A B C given",
+            "line A B C by 5 of 1 2 3 4 5 6", "line A B C by 5 of 6 5 4 3 2 1");
+        x.grade();
+        due("by the last of six", x.way(7), 4);
+        due("again", x.way(8), 2);
+        begin(20, 4);
+        rows("btw A B C given", "line A B D by 5 of 1", "line A C B by 5 of 2", "line A B C by 5 of 3 2 1");
+        x.grade();
+        due("by no row at all", x.way(2), 0);
+        due("not by the row of another", x.way(3), 5);
+        due("again", x.way(4), 2);
+    }
+
+    /** A row that was right and is circular now. */
+    private void rightNoMore() {
+        begin(20, 3);
+        x.figure();
+        draw(0, 0, 0, 1, 0, 2, 0);
+        rows("btw B A C given", "line A B C by 8 of 4", "eq B A B C by 3 of 4");
+        x.grade();
+        due("way", x.way(2), 5);
+        due("gap", x.gap(2), 1);
+        due("marks", x.marks(0), 1);
+        due("order", x.order(3), 3);
+        due("verdict", x.verdict(3), 2);
+        x.place(0, 1, 1, 1);
+        x.grade();
+        due("no good figure", x.counter(3), NONE);
+        x.place(0, 1, 0, 0);
+        draw(0, 0, 0, 1, 0, 3, 0);
+        x.grade();
+        due("a counter", x.counter(3), 0);
+        rows("line A B C by 5 of 2");
+        x.grade();
+        for (int row = 2; row <= 4; row++) {
+            due("verdict", x.verdict(row), 0);
+            due("way", x.way(row), 0);
+            due("gap", x.gap(row), 0);
+            due("counter", x.counter(row), NONE);
+            due("order", x.order(row), NONE);
+        }
+        due("marks", x.marks(0), 0);
+        due("right ones", x.told(5), 1);
+        due("circular ones", x.told(6), 3);
+        due("circle", x.circle(0), 2);
+        due("circle", x.circle(1), 4);
+    }
+
     /** By each rule its own fact follows, and neither by the next one nor from fewer rows. */
     private void waysOfRules() {
         String[][] rules = {
@@ -860,6 +952,13 @@ public final class PromisesTest {
         goalIs("mid A B C");
         due("not any more", x.marks(0), 4);
         for (int bad : new int[] {LEAST, -1, 2, MOST}) due("side " + bad, x.marks(bad), OUTSIDE);
+        begin(25, 3);
+        rows("line A B C by 5 of 2", "btw A B C given");
+        x.grade();
+        due("the first row counts", x.marks(0), 2);
+        goalIs("btw A B C");
+        due("a given row may be the goal", x.marks(0), 7);
+        due("at most", x.marks(1), 7);
     }
 
     private void hint() {
