@@ -26,6 +26,7 @@ public final class PromiseEdgesTest {
         because();
         alike();
         grade();
+        gradedManyTimes();
         gradedRows();
         noneSinceTheseCalls();
         stillGradedAfterOthers();
@@ -502,6 +503,22 @@ public final class PromiseEdgesTest {
         DESK.ask("grade()", 1);
         DESK.ask("place(0, 0, 1, 0)", 1);
         DESK.ask("grade()", 0);
+    }
+
+    /** What a grading has left behind must not crowd out a later one, be it the hundredth. */
+    private static void gradedManyTimes() {
+        DESK.begin("18: All rows are graded, as if for the first time", 7);
+        DESK.rows("par B C C F given", "par F E F A given", "eq G E C A given", "par E F E G given", "par G A G B given",
+            "par A F F C given", "par F C D C given", "circ A B C D");
+        DESK.ask("figure()", 0);
+        for (int i = 0; i < 100; i++) {
+            DESK.ask("place(0, 0, 0, 0)", 1);
+            DESK.ask("grade()", 8);
+        }
+        DESK.askFrom(0, "reached(#)", 7, 11, 43, 90, 89, 6);
+        DESK.ask("place(0, 0, 0, 0)", 1);
+        DESK.ask("grade()", 8);
+        DESK.ask("reached(5)", 6);
     }
 
     /** Promises 19 to 22 and 24: rows that there are not, with and without a grade(). */
